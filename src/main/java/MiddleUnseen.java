@@ -173,7 +173,9 @@ public final class MiddleUnseen {
         requireScene(scene);
         requireTask(task);
         int looker = hall.addLooker(scene, task, knows);
-        forgetStates(looker);
+        if (looker != NONE) {
+            forgetStates(looker);
+        }
         return looker;
     }
 
@@ -629,7 +631,7 @@ public final class MiddleUnseen {
     }
 
     private void forgetStates(int looker) {
-        for (int law = 0; law < MOST_LAWS && looker != NONE; law++) {
+        for (int law = 0; law < MOST_LAWS; law++) {
             states[looker * MOST_LAWS + law] = NONE;
         }
     }
@@ -833,28 +835,22 @@ public final class MiddleUnseen {
             return which;
         }
 
+        /** How many signs of a word are as here is kept in alike; NONE: one was not. */
         private int wordIn(String words, int length) {
             int which = 0;
-            int from = 0;
+            int alike = 0;
             for (int k = 0; k < words.length(); k++) {
-                if (words.charAt(k) == ' ') {
-                    if (k - from == length && standsHere(words, from, length)) {
-                        return which;
-                    }
+                char sign = words.charAt(k);
+                if (sign != ' ') {
+                    alike = alike >= 0 && alike < length && bytes[place + alike] == sign ? alike + 1 : NONE;
+                } else if (alike == length) {
+                    return which;
+                } else {
                     which++;
-                    from = k + 1;
+                    alike = 0;
                 }
             }
             return NONE;
-        }
-
-        private boolean standsHere(String words, int from, int length) {
-            for (int k = 0; k < length; k++) {
-                if (bytes[place + k] != words.charAt(from + k)) {
-                    return false;
-                }
-            }
-            return true;
         }
 
         /** Which of some signs stands next; NONE, taking nothing: none of them. */
