@@ -824,7 +824,7 @@ public final class MiddleUnseen {
             }
             skipBlanks();
             int stop = place;
-            while (isAt(stop, 'a', 'z')) {
+            while (stop < end && isAt(stop, 'a', 'z')) {
                 stop++;
             }
             int which = wordIn(words, stop - place);
@@ -835,7 +835,7 @@ public final class MiddleUnseen {
             return which;
         }
 
-        /** How many signs of a word are as here is kept in alike; NONE: one was not. */
+        /** Letters that agree with a word of the list are counted in alike, which is NONE once one does not. */
         private int wordIn(String words, int length) {
             int which = 0;
             int alike = 0;
@@ -890,7 +890,7 @@ public final class MiddleUnseen {
             }
             token = place;
             int number = 0;
-            while (isAt(place, '0', '9')) {
+            while (place < end && isAt(place, '0', '9')) {
                 number = Math.min(SATURATED, number * 10 + bytes[place] - '0');
                 place++;
             }

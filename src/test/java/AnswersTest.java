@@ -174,7 +174,11 @@ public final class AnswersTest {
         Due.is("who knows, or was not asked all", x.gone(0, 0, 0), 2);
         Due.is("nor here", x.gone(0, 0, 2), 8);
         x.answer(part, 1, false);
+        int late = x.looker(0, 0, false);
+        x.answer(late, 1, false);
+        x.answer(late, 2, true);
         Due.is("asked all", x.gone(0, 0, 0), 3);
+        Due.is("who was not asked 0", x.gone(0, 0, 2), 9);
         Due.is("of another task", x.gone(0, 1, 1), 1);
         Due.is("of another scene", x.gone(1, 0, 2), 0);
         Due.noScene("no scene comes first", () -> x.gone(2, 9, 9));

@@ -13,6 +13,7 @@ public final class LawsTest {
         large();
         nearer();
         slower();
+        edges();
         wrongs();
         Due.end("LawsTest");
     }
@@ -322,6 +323,35 @@ public final class LawsTest {
         for (int k = 0; k < 3; k++) {
             Due.is("no odd one", x.least(0, 1, k), -1);
         }
+    }
+
+    /** The first tenth and END count, and a fault leaves nothing behind. */
+    private static void edges() {
+        MiddleUnseen x = new MiddleUnseen();
+        Due.scene(x, "thing 0 4;way 0 0 39 15 10 20 15;odd 0;");
+        Due.task(x, "keep 0;room 0;");
+        Due.law(x, "gets 1;line 1;");
+        Due.law(x, "gets 9;line 999;line 9 if tenth=9;keeps 0;");
+        Due.law(x, "gets 9;line 999;line 9 if tenth=10;keeps 0;");
+        x.looker(0, 0, false);
+        Due.is("sum of the first tenth", x.gets(0, 0, 0, 0, 1), 1);
+        Due.is("full in the first tenth", x.name(0, 0, 0, 5), 1);
+        Due.is("seen in the first tenth", x.seen(0, 0, 0), 0);
+        Due.is("one ahead of END", x.says(1, 0, 1), true);
+        Due.is("kept for none, forgotten by one", x.says(1, 0, 0), false);
+        Due.is("seen at END, kept", x.says(2, 0, 0), true);
+        Due.is("on it at END", x.on(0, 0), 1);
+        Due.law(x, "gets 77;line 1;gets");
+        x.law(0);
+        Due.is("nothing of the law with a fault", x.gets(3, 0, 0, 0, 0), 0);
+        Due.is("nor its line", x.gets(3, 0, 0, 0, 2), 100);
+        Due.is("near enough at END", x.miss(3, 0, 1), 2);
+        x.blink(0, 9, 10);
+        Due.is("4 away at last, then shut", x.miss(3, 0, 5), 1);
+        Due.scene(x, "thing 0 4;way 0 0 39 15 10 20 15;odd 0;turn 0 10 1;");
+        Due.task(x, "drop 1;");
+        x.looker(1, 1, false);
+        Due.is("dropped at END", x.miss(3, 1, 1), 5);
     }
 
     private static void wrongs() {

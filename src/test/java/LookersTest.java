@@ -53,7 +53,10 @@ public final class LookersTest {
         Due.scene(x, "thing 0 1;thing 1 1;thing 1 1;way 1 0 1 1 9 1 1;way 2 0 2 2 9 2 2;throw 0 2 4;throw 0 1 4;turn 0 4 0;");
         x.looker(1, 1, false);
         Due.is("of alike ones the last of the text", x.eye(3, 4), 101);
-        Due.illegal("looker 4", () -> x.eye(4, 0));
+        Due.scene(x, "thing 0 1;thing 1 1;way 1 0 1 1 9 1 1;throw 0 1 0;");
+        x.looker(2, 1, false);
+        Due.is("the one throw, in the first tenth", x.eye(4, 0), 101);
+        Due.illegal("looker 5", () -> x.eye(5, 0));
         Due.illegal("looker -1", () -> x.eye(-1, 0));
         Due.illegal("tenth 300", () -> x.eye(0, 300));
         Due.illegal("tenth -1", () -> x.eye(0, -1));

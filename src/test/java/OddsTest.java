@@ -92,6 +92,11 @@ public final class OddsTest {
     }
 
     private static void fits() {
+        MiddleUnseen z = stage();
+        z.answer(z.looker(0, 1, false), 0, true);
+        // law 2 has it forgotten, which is no to asking 0
+        oddsAre(z, 12, 4, 4, 4);
+        Due.is("forgotten parts", z.fits(0), 1);
         MiddleUnseen x = stage();
         Due.is("nothing parts", x.fits(0), 15);
         x.answer(x.looker(0, 0, false), 0, true);

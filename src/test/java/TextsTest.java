@@ -115,7 +115,7 @@ public final class TextsTest {
         Due.is("8 things", Due.scene(new MiddleUnseen(), eight), 0);
         Due.sceneFault(eight + "  thing 9 9;", 3, 82);
         Due.is("edges", Due.scene(new MiddleUnseen(),
-                "thing 7 9;thing 0 1;way 0 299 39 29 299 0 0;throw 0 1 299;turn 1 299 7;odd 1;"), 0);
+                "thing 7 9;thing 0 1;way 0 299 39 29 299 39 29;throw 0 1 299;turn 1 299 7;odd 1;"), 0);
     }
 
     private static void tasks() {
