@@ -90,6 +90,28 @@ final class Due {
         is("laws behind \"" + text + "\"", x.count(2), 0);
     }
 
+    /** A text of a new object that has no fault. */
+    static void sceneStands(String text) {
+        MiddleUnseen x = new MiddleUnseen();
+        is("scene \"" + text + "\"", scene(x, text), 0);
+        is("fault of scene \"" + text + "\"", x.fault(), -1);
+        is("scenes behind \"" + text + "\"", x.count(0), 1);
+    }
+
+    static void taskStands(String text) {
+        MiddleUnseen x = new MiddleUnseen();
+        is("task \"" + text + "\"", task(x, text), 0);
+        is("fault of task \"" + text + "\"", x.fault(), -1);
+        is("tasks behind \"" + text + "\"", x.count(1), 1);
+    }
+
+    static void lawStands(String text) {
+        MiddleUnseen x = new MiddleUnseen();
+        is("law \"" + text + "\"", law(x, text), 0);
+        is("fault of law \"" + text + "\"", x.fault(), -1);
+        is("laws behind \"" + text + "\"", x.count(2), 1);
+    }
+
     static void end(String name) {
         System.out.println(name + ": " + (wrong == 0 ? "all answers are as due" : wrong + " answers are not as due"));
         System.exit(wrong == 0 ? 0 : 1);
