@@ -41,6 +41,9 @@ public final class GroupBoundsTest {
         crossingSeenOrNotOrOpen();
         crossingOfWhatFits();
         crossingWithoutAnOddOne();
+        newLookersOfEachSceneAndTask();
+        newLookersByEachLaw();
+        newLookersDrawNothing();
         Due.end("GroupBoundsTest");
     }
 
@@ -687,5 +690,82 @@ public final class GroupBoundsTest {
         }
         x.answer(x.looker(1, 0, false), 0, true);
         Due.is("who has no odd one parts from none", x.crossing(1, 0, 0, 0), 1);
+    }
+
+    /** Six scenes (by size) and six tasks (by watch) are numbered 0 to 35; by the law one sees those with a bit. */
+    private static void newLookersOfEachSceneAndTask() {
+        for (int bit = 1; bit < 64; bit *= 2) {
+            MiddleUnseen x = new MiddleUnseen();
+            for (int k = 0; k < 6; k++) {
+                Due.scene(x, "thing 0 " + (k + 1) + ";way 0 0 1 1 0 1 1;odd 0;");
+                Due.task(x, "watch " + k + ";");
+            }
+            String number = "((size-1)*6+watch)/" + bit;
+            Due.law(x, "gets 1 if " + number + "-" + number + "/2*2=1;line 1;");
+            for (int k = 0; k < 14; k++) {
+                x.looker(k % 6, k % 5, false);
+            }
+            lookersSay(x, bit);
+            for (int n = 35; n >= 0; n--) {
+                Due.is("crossing of " + n + " by " + bit, x.crossing(n / 6, n % 6, 2, 14), (n & bit) != 0 ? 2 : 1);
+            }
+            lookersSay(x, bit);
+            Due.is("the first one of all", x.next(), 0);
+        }
+    }
+
+    private static void lookersSay(MiddleUnseen x, int bit) {
+        for (int k = 0; k < 14; k++) {
+            Due.is("looker " + k + " by " + bit, x.says(0, k, 2), (k % 6 * 6 + k % 5 & bit) != 0);
+        }
+    }
+
+    private static void newLookersByEachLaw() {
+        for (int law = 0; law < 4; law++) {
+            MiddleUnseen x = new MiddleUnseen();
+            for (int k = 0; k < 6; k++) {
+                Due.scene(x, "thing 0 4;way 0 0 20 15 9 20 15;odd 0;");
+                x.task(0);
+            }
+            for (int k = 0; k < 4; k++) {
+                Due.law(x, k == law ? "gets 9;line 9;" : "gets 8;line 81;");
+            }
+            for (int k = 0; k < 14; k++) {
+                x.blink(x.looker(5, 5, false), 0, 9);
+            }
+            for (int k = 0; k < 4; k++) {
+                Due.is("looker 0, whose eyes are shut, by " + k, x.says(k, 0, 0), false);
+                Due.is("looker 13, whose eyes are shut, by " + k, x.says(k, 13, 0), false);
+            }
+            Due.is("open at the first scene, by " + law, x.crossing(0, 0, 0, 0), 3);
+            Due.is("open at the last scene, by " + law, x.crossing(5, 5, 0, 0), 3);
+            x.weigh(law, 9);
+            Due.is("3 beside 9", x.next(), 0);
+        }
+    }
+
+    /** Draws, changes and what would be needed, asked just ahead, have nothing to do with a new looker. */
+    private static void newLookersDrawNothing() {
+        String scene = "thing 0 4;way 0 0 20 15 9 20 15;odd 0;turn 0 9 1;";
+        for (int before = 0; before < 5; before++) {
+            MiddleUnseen x = new MiddleUnseen();
+            Due.scene(x, scene);
+            x.task(0);
+            Due.law(x, "line 1;gets size-8;gets 1 if pace>9;");
+            Due.law(x, "gets 1;line 9;");
+            x.looker(0, 0, true);
+            x.eyes(0, 0, 0, 0);
+            x.blink(0, 0, 3);
+            switch (before) {
+                case 0: Due.is("drawn", x.drawn(0, 0, 50, 0), 5); break;
+                case 1: Due.is("change", x.change(0, 0), -1); break;
+                case 2: Due.is("change", x.change(1, 0), -1); break;
+                case 3: Due.is("large", x.least(0, 0, 0), 9); break;
+                default: Due.is("nearer", x.least(1, 0, 1), -1); break;
+            }
+            Due.is("law 0 says no, law 1 yes, behind " + before, x.crossing(0, 0, 0, 0), 3);
+            x.answer(x.looker(0, 0, false), 0, true);
+            Due.is("law 1 alone fits, behind " + before, x.crossing(0, 0, 0, 0), 2);
+        }
     }
 }

@@ -12,6 +12,7 @@ public final class MissBoundsTest {
         nearNeverBelowANumber();
         onItIsNearTwoOrLess();
         onItCountsOpenEyesAlone();
+        missIsOfItsOwnLooker();
         yetIsOfWhoWereOnIt();
         theSeedWraps();
         drawsOfEachNoise();
@@ -173,6 +174,24 @@ public final class MissBoundsTest {
         x.eyes(0, 10, 20, 15);
         x.eyes(0, 11, 0, 0);
         Due.is("on it at first", x.miss(0, 0, 99), 2);
+    }
+
+    /** What one looker says was asked just ahead: it has nothing to do with why another one misses it. */
+    private static void missIsOfItsOwnLooker() {
+        MiddleUnseen x = of(STAGE, "", "gets 1;line 11;");
+        Due.task(x, "drop 1;");
+        Due.is("of another task", x.looker(0, 1, false), 2);
+        x.eyes(0, 0, 0, 0);
+        for (int k = 0; k < 3; k++) {
+            Due.is("it does not say so", x.says(0, k, 0), false);
+        }
+        int[] due = {6, 2, 5};
+        for (int k = 0; k < 3; k++) {
+            Due.is("miss of " + k, x.miss(0, k, 1), due[k]);
+        }
+        for (int k = 2; k >= 0; k--) {
+            Due.is("miss of " + k + " again", x.miss(0, k, 1), due[k]);
+        }
     }
 
     private static void yetIsOfWhoWereOnIt() {

@@ -9,6 +9,7 @@ public final class OddsTest {
         crossing();
         images();
         imagesHoldAll();
+        imageOfAllThatThereCanBe();
         counts();
         Due.end("OddsTest");
     }
@@ -286,6 +287,72 @@ public final class OddsTest {
         Due.is("has not answered", y.answer(0, 0, true), -1);
         Due.is("nor was it sure", y.sure(0, 1), -1);
         Due.is("nor does it know", y.knowing(0, 0), 0);
+    }
+
+    private static int kept(int k) {
+        return k * 7 % 5 % 3 - 1;
+    }
+
+    private static void answerAll(MiddleUnseen x) {
+        for (int k = 0; k < 14; k++) {
+            for (int asking = 0; asking < 3; asking++) {
+                if (kept(3 * k + asking) >= 0) {
+                    x.answer(k, asking, kept(3 * k + asking) == 1);
+                }
+            }
+            x.counted(k, 10 + k);
+            x.sure(k, 50 + k);
+        }
+    }
+
+    /** Fourteen lookers, 60 rows of eyes, 40 blinks, four weights: all is as it was. */
+    private static void imageOfAllThatThereCanBe() {
+        MiddleUnseen x = stage();
+        for (int k = 0; k < 14; k++) {
+            x.looker(k % 3, k % 2, k % 4 == 3);
+        }
+        answerAll(x);
+        for (int k = 0; k < 59; k++) {
+            x.eyes(k % 14, k, k % 40, k % 30);
+        }
+        for (int k = 0; k < 39; k++) {
+            x.blink(k % 14, 100 + k, 100 + k);
+        }
+        for (int law = 0; law < 4; law++) {
+            x.weigh(law, 2 + law);
+        }
+        x.wrong(7);
+        Due.is("the image", x.image(), 1);
+        for (int k = 0; k < 14; k++) {
+            for (int asking = 0; asking < 3; asking++) {
+                x.answer(k, asking, kept(3 * k + asking) != 1);
+            }
+            x.counted(k, 0);
+            x.sure(k, 0);
+        }
+        Due.is("the 60th row", x.eyes(13, 0, 1, 1), 60);
+        Due.is("the 40th blink", x.blink(13, 0, 1), 40);
+        for (int law = 0; law < 4; law++) {
+            x.weigh(law, 9);
+        }
+        x.wrong(1);
+        Due.is("back", x.restore(), 0);
+        for (int k = 0; k < 14; k++) {
+            for (int asking = 0; asking < 3; asking++) {
+                Due.is("answer of " + k + " to " + asking, x.answer(k, asking, true), kept(3 * k + asking));
+            }
+            Due.is("counted by " + k, x.counted(k, 1), 10 + k);
+            Due.is("how sure " + k + " was", x.sure(k, 1), 50 + k);
+        }
+        Due.is("rows", x.count(4), 59);
+        Due.is("blinks", x.count(5), 39);
+        Due.is("eyes that were told since", x.eye(13, 0), 2015);
+        Due.is("the 59th row", x.eye(58 % 14, 58), 1828);
+        Due.is("the 39th blink", x.eye(38 % 14, 138), -1);
+        for (int law = 0; law < 4; law++) {
+            Due.is("weight of " + law, x.weigh(law, 1), 2 + law);
+        }
+        Due.is("wrong", x.count(8), 7);
     }
 
     private static void counts() {

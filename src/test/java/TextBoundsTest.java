@@ -45,6 +45,10 @@ public final class TextBoundsTest {
         divisionCuts();
         divisionBy0Is0();
         bothSidesAreWorked();
+        leastAndMostOfTwo();
+        notOfABInItsPlace();
+        faultyLawsLeaveRoom();
+        faultyTasksLeaveNothing();
         Due.end("TextBoundsTest");
     }
 
@@ -582,5 +586,61 @@ public final class TextBoundsTest {
         holdsIs("2<1 and 1/0=0", false);
         holdsIs("1<2 and 1/0=0", true);
         holdsIs("2<1 or 2<1", false);
+    }
+
+    private static void leastAndMostOfTwo() {
+        holdsIs("least(2,7)=2", true);
+        holdsIs("least(7,2)=2", true);
+        holdsIs("least(7,7)=7", true);
+        holdsIs("least(0-2,0-7)=0-7", true);
+        holdsIs("least(0-7,2)=0-7", true);
+        holdsIs("most(2,7)=7", true);
+        holdsIs("most(7,2)=7", true);
+        holdsIs("most(7,7)=7", true);
+        holdsIs("most(0-2,0-7)=0-2", true);
+        holdsIs("most(0-7,2)=2", true);
+        holdsIs("most(" + LOWEST + ",1)=1", true);
+        holdsIs("least(1," + LOWEST + ")<0", true);
+        holdsIs("least(most(1,5),most(4,2))=4", true);
+    }
+
+    private static void notOfABInItsPlace() {
+        holdsIs("1<2 and not 2<1", true);
+        holdsIs("not 2<1 and 1<2", true);
+        holdsIs("not 2<1 and not 2<1", true);
+        holdsIs("not 2<1 and not 1<2", false);
+        holdsIs("not not not 2<1 and 1<2", true);
+        holdsIs("not [not 2<1 and not 2<1] or 2<1", false);
+        holdsIs("2<1 or not 2<1", true);
+        holdsIs("1<2 or not 1<2", true);
+        holdsIs("2<1 or not 1<2", false);
+    }
+
+    private static void faultyLawsLeaveRoom() {
+        MiddleUnseen x = new MiddleUnseen();
+        Due.scene(x, "thing 0 3;way 0 0 20 15 9 20 15;");
+        x.task(0);
+        x.looker(0, 0, false);
+        for (int k = 0; k < 4; k++) {
+            Due.is("a long one, cut short", Due.law(x, "gets 1" + "+1".repeat(197)), -9);
+            Due.is("its fault", x.fault(), 400);
+            Due.is("sixteen and one", Due.law(x, "gets 1;".repeat(17)), -7);
+            Due.is("law " + k, Due.law(x, "gets 1" + "+1".repeat(190) + ";line 2" + "*1;"), k);
+            Due.is("what it gets", x.gets(k, 0, 0, 0, 0), 191);
+            Due.is("its line", x.gets(k, 0, 0, 0, 2), 2);
+        }
+        for (int k = 0; k < 4; k++) {
+            Due.is("what law " + k + " gets still", x.gets(k, 0, 0, 0, 0), 191);
+        }
+    }
+
+    private static void faultyTasksLeaveNothing() {
+        MiddleUnseen x = new MiddleUnseen();
+        Due.is("a fault at last", Due.task(x, "keep 7;drop 6;count 5;room 8;watch 3;odd"), -9);
+        x.task(0);
+        int[] due = {0, 0, -1, 4, 0};
+        for (int what = 0; what < 5; what++) {
+            Due.is("kept " + what, x.kept(0, what), due[what]);
+        }
     }
 }
