@@ -13,6 +13,7 @@ public final class GroupBoundsTest {
         guessedOfNone();
         guessedIsCut();
         guessedIs0AtLeast();
+        guessedOfThatAsking();
         apartOfTwoGroups();
         waysHaveAsManyYesOrMore();
         allWays();
@@ -36,6 +37,8 @@ public final class GroupBoundsTest {
         nextIsTheFirstOfTheGreatest();
         nextOfANewLooker();
         nextWithoutLawsOrScenes();
+        nextOfMoreTasksThanScenes();
+        nextOfMoreScenesThanTasks();
         knowingOfWhoKnow();
         knowingNotTheChange();
         crossingSeenOrNotOrOpen();
@@ -242,6 +245,27 @@ public final class GroupBoundsTest {
         x.answer(5, 0, false);
         // 1,000 times (1 8 - 1 4), by 4 7: 142 and six sevenths
         Due.is("more", x.guessed(0, 1, 0, 0), 142);
+    }
+
+    /** Of four who were asked 0, three were asked 1 and two were asked 2; of five of the other scene four and three. */
+    private static void guessedOfThatAsking() {
+        MiddleUnseen x = stage();
+        for (int k = 0; k < 9; k++) {
+            x.looker(k < 4 ? 0 : 1, 0, false);
+        }
+        for (int asking = 0; asking < 3; asking++) {
+            for (int k = 0; k < 4 - asking; k++) {
+                x.answer(k, asking, k < 2);
+            }
+            for (int k = 4; k < 9 - asking; k++) {
+                x.answer(k, asking, k < 5);
+            }
+        }
+        // 1,000 times (2 5 - 1 4), by 4 4; (2 4 - 1 3), by 3 3; (2 3 - 1 2), by 2 2
+        int[] due = {375, 555, 1000};
+        for (int asking = 0; asking < 3; asking++) {
+            Due.is("guessed of asking " + asking, x.guessed(0, 1, 0, asking), due[asking]);
+        }
     }
 
     // ---- apart
@@ -611,6 +635,31 @@ public final class GroupBoundsTest {
         z.task(0);
         z.law(0);
         Due.is("no scene", z.next(), -1);
+    }
+
+    private static void nextOfMoreTasksThanScenes() {
+        MiddleUnseen x = new MiddleUnseen();
+        Due.scene(x, "thing 0 4;way 0 0 20 15 9 20 15;odd 0;");
+        for (int k = 0; k < 6; k++) {
+            Due.task(x, "watch " + k + ";");
+        }
+        Due.law(x, "gets 9 if watch=5;line 9;");
+        Due.law(x, "line 9;");
+        Due.is("the last task of one scene", x.next(), 5);
+        Due.law(x, "gets 9 if watch=3;line 9;");
+        Due.law(x, "gets 9 if watch=3 or watch=5;line 9;");
+        Due.is("2 of 4 twice: the first", x.next(), 3);
+    }
+
+    private static void nextOfMoreScenesThanTasks() {
+        MiddleUnseen x = new MiddleUnseen();
+        for (int k = 1; k <= 6; k++) {
+            Due.scene(x, "thing 0 " + k + ";way 0 0 20 15 9 20 15;odd 0;");
+        }
+        Due.task(x, "watch 1;");
+        Due.law(x, "gets 9 if size=6 or watch=0;line 9;");
+        Due.law(x, "line 9;");
+        Due.is("the one task of the last scene", x.next(), 50);
     }
 
     private static void knowingOfWhoKnow() {

@@ -13,6 +13,7 @@ public final class MissBoundsTest {
         onItIsNearTwoOrLess();
         onItCountsOpenEyesAlone();
         missIsOfItsOwnLooker();
+        missIsOfItsOwnScene();
         yetIsOfWhoWereOnIt();
         theSeedWraps();
         drawsOfEachNoise();
@@ -191,6 +192,26 @@ public final class MissBoundsTest {
         }
         for (int k = 2; k >= 0; k--) {
             Due.is("miss of " + k + " again", x.miss(0, k, 1), due[k]);
+        }
+    }
+
+    /** The scenes end in tenths 0 and 59; two who look at the latter do not look at the same place. */
+    private static void missIsOfItsOwnScene() {
+        MiddleUnseen x = new MiddleUnseen();
+        Due.scene(x, "thing 0 1;way 0 0 20 15 0 20 15;odd 0;");
+        Due.scene(x, "thing 0 1;way 0 50 20 15 59 20 15;odd 0;");
+        x.task(0);
+        Due.law(x, "line 1;");
+        for (int k = 0; k < 4; k++) {
+            x.looker(k == 0 ? 0 : 1, 0, false);
+        }
+        x.eyes(2, 0, 0, 0);
+        for (int turn = 0; turn < 2; turn++) {
+            Due.is("all but the one were on it", x.yet(0), 11);
+            Due.is("on it in tenth 0", x.miss(0, 0, 1), 2);
+            Due.is("on it in tenth 50", x.miss(0, 1, 1), 2);
+            Due.is("far off", x.miss(0, 2, 1), 6);
+            Due.is("on it, too", x.miss(0, 3, 1), 2);
         }
     }
 

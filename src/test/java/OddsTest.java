@@ -10,6 +10,7 @@ public final class OddsTest {
         images();
         imagesHoldAll();
         imageOfAllThatThereCanBe();
+        whatIsSaidIsAsInTheImage();
         counts();
         Due.end("OddsTest");
     }
@@ -353,6 +354,43 @@ public final class OddsTest {
             Due.is("weight of " + law, x.weigh(law, 1), 2 + law);
         }
         Due.is("wrong", x.count(8), 7);
+    }
+
+    /** What each looker says by each law goes back with its eyes and blinks. */
+    private static void whatIsSaidIsAsInTheImage() {
+        MiddleUnseen x = new MiddleUnseen();
+        Due.scene(x, "thing 0 4;way 0 0 20 15 9 20 15;odd 0;");
+        x.task(0);
+        for (int k = 0; k < 4; k++) {
+            Due.law(x, "gets 1 if near<" + (k + 1) + ";line 10;");
+        }
+        for (int k = 0; k < 14; k++) {
+            x.looker(0, 0, false);
+            x.eyes(k, 0, 20 + k % 5, 15);
+        }
+        theySay(x, 0, 14);
+        x.image();
+        for (int k = 0; k < 14; k++) {
+            x.eyes(k, 0, 20 + (k + 2) % 5, 15);
+        }
+        theySay(x, 2, 14);
+        x.restore();
+        theySay(x, 0, 14);
+        x.image();
+        x.blink(13, 5, 5);
+        x.blink(7, 9, 9);
+        Due.is("13 by a blink", x.says(3, 13, 2), false);
+        Due.is("7 by a blink", x.says(2, 7, 2), false);
+        x.restore();
+        theySay(x, 0, 14);
+    }
+
+    private static void theySay(MiddleUnseen x, int moved, int lookers) {
+        for (int k = 0; k < lookers; k++) {
+            for (int law = 0; law < 4; law++) {
+                Due.is("looker " + k + " by law " + law, x.says(law, k, 2), (k + moved) % 5 <= law);
+            }
+        }
     }
 
     private static void counts() {

@@ -46,6 +46,7 @@ public final class SightBoundsTest {
         sureIsTheLastThatHoldsAtEnd();
         saysOfSeenForgottenUnsure();
         withoutAnOddOneNo();
+        eachSceneToItsOwnEnd();
         Due.end("SightBoundsTest");
     }
 
@@ -573,6 +574,40 @@ public final class SightBoundsTest {
         saysAre(TO_29, "gets 1;line 10;keeps 19;sure 21;", false, false, true);
         saysAre(TO_29, "gets 1;line 21;", false, false, false);
         saysAre(TO_29, "gets 1;line 21;keeps 0;sure 99;", false, false, false);
+    }
+
+    /** Scene k ends in tenth 60 k, and its odd one comes near in that tenth alone. */
+    private static void eachSceneToItsOwnEnd() {
+        for (int ask = 0; ask < 6; ask++) {
+            MiddleUnseen x = new MiddleUnseen();
+            for (int k = 0; k < 5; k++) {
+                int end = 60 * k;
+                Due.scene(x, "thing 0 1;way 0 0 1 1 " + end + " 1 1;way 0 " + end + " 20 15 " + end + " 20 15;odd 0;turn 0 "
+                        + end + " 1;");
+            }
+            x.task(0);
+            Due.law(x, "gets 5 if near<3;line 5;");
+            Due.law(x, "gets 5 if near<2;line 6;");
+            for (int k = 0; k < 5; k++) {
+                x.looker(k, 0, true);
+            }
+            for (int k = 4; k >= 0; k--) {
+                switch (ask) {
+                    case 0: Due.is("seen", x.seen(0, k, 0), 60 * k); break;
+                    case 1: Due.is("says", x.says(0, k, 0), true); break;
+                    case 2: Due.is("new one", x.crossing(k, 0, 2, 14), 3); break;
+                    case 3: Due.is("change", x.change(0, k), 60 * k); break;
+                    case 4: Due.is("drawn", x.drawn(0, k, 0, 1), 60 * k); break;
+                    default: Due.is("near", x.on(k, 2), 1); break;
+                }
+            }
+            Due.is("all were on it", x.yet(1), 31);
+            for (int k = 4; k >= 0; k--) {
+                Due.is("it says so", x.miss(0, k, 1), 7);
+                Due.is("it was on it", x.miss(1, k, 1), 2);
+                Due.is("as it is", x.least(0, k, 2), 1);
+            }
+        }
     }
 
     private static void withoutAnOddOneNo() {
